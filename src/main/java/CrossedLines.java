@@ -15,9 +15,11 @@ public final class CrossedLines {
     private static final int MOST_TWOS = 3;
     private static final int MOST_THREES = 5;
     private static final int MOST_LOSS_CORDS = 8;
+    private static final int RULES_END = 10 * MOST_LINES;
     private static final int TRAYS = 4;
     private static final int IMAGES = 3;
     private static final int FAR = 1200;
+    private static final int MOST_DIVISIONS = 200;
 
     private final byte[] tape = new byte[MOST_BYTES];
     private int bytes = 0;
@@ -33,9 +35,8 @@ public final class CrossedLines {
     private final Tray[] trays = new Tray[TRAYS];
 
     private final Fitting fitting = new Fitting();
-    private final Crossing crossing;
+    private final Crossing crossing = new Crossing();
     private final Pairs pairs = new Pairs();
-    private final Loss lossBy = new Loss();
     private final int[] spouses = new int[MOST_LINES];
     private final int[] comers = new int[MOST_LINES];
 
@@ -43,7 +44,6 @@ public final class CrossedLines {
         parser = new Parser(new Tokens(tape));
         board = new Board(new Plan(parser));
         trial = new Board(board.plan);
-        crossing = new Crossing(board.plan);
         for (int i = 0; i < TRAYS; i++) {
             trays[i] = new Tray();
         }
@@ -498,27 +498,46 @@ public final class CrossedLines {
         needWithin(p, 1, 20);
         needWithin(q, 1, 20);
         needWithin(what, 0, 1);
-        lossBy.begin();
-        for (int k = 1; k <= c; k++) {
-            lossBy.addCord(k, p, q);
-        }
-        return what == 0 ? lossBy.above() : lossBy.below();
+        return lossPart(c, p, q, what == 0);
     }
 
     public int fewest(int p, int q, int m) throws IllegalArgumentException {
         needWithin(p, 1, 20);
         needWithin(q, 1, 20);
         needWithin(m, 1, 999);
-        lossBy.begin();
-        for (int k = 0; k <= MOST_LOSS_CORDS; k++) {
-            if (k > 0) {
-                lossBy.addCord(k, p, q);
-            }
-            if (lossBy.above() * m <= lossBy.below()) {
-                return k;
+        for (int c = 0; c <= MOST_LOSS_CORDS; c++) {
+            if (lossPart(c, p, q, true) * m <= lossPart(c, p, q, false)) {
+                return c;
             }
         }
         return NONE;
+    }
+
+    /** The number above or below in lowest terms; by 8 cords and 20 by 20 it is some 3 * 10^15 at most. */
+    private static long lossPart(int c, int p, int q, boolean isAbove) {
+        long above = 1;
+        long below = 1;
+        for (int k = 1; k <= c; k++) {
+            long lost = p * above;
+            long all = (long) q * k * below + lost;
+            long common = commonDivisor(all, lost);
+            if (common > 0) {
+                above = lost / common;
+                below = all / common;
+            }
+        }
+        return isAbove ? above : below;
+    }
+
+    private static long commonDivisor(long a, long b) {
+        long x = a;
+        long y = b;
+        for (int i = 0; i < MOST_DIVISIONS && y != 0; i++) {
+            long rest = x % y;
+            x = y;
+            y = rest;
+        }
+        return x;
     }
 
     // ---- rules
@@ -527,13 +546,10 @@ public final class CrossedLines {
             throws NoSuchElementException, IllegalStateException, IllegalArgumentException {
         Tray seen = toldTray(tray);
         needThrees(seen);
-        int lines = board.plan.lines;
         int many = 0;
-        for (int u = 0; u < lines; u++) {
-            for (int v = 0; v < lines; v++) {
-                if (explains(seen, u, v)) {
-                    many++;
-                }
+        for (int rule = 0; rule < RULES_END; rule++) {
+            if (explains(rule, seen)) {
+                many++;
             }
         }
         return many;
@@ -546,16 +562,13 @@ public final class CrossedLines {
         if (k < 0) {
             throw new IllegalArgumentException("below 0");
         }
-        int lines = board.plan.lines;
         int many = 0;
-        for (int u = 0; u < lines; u++) {
-            for (int v = 0; v < lines; v++) {
-                if (explains(seen, u, v)) {
-                    if (many == k) {
-                        return 10 * u + v;
-                    }
-                    many++;
+        for (int rule = 0; rule < RULES_END; rule++) {
+            if (explains(rule, seen)) {
+                if (many == k) {
+                    return rule;
                 }
+                many++;
             }
         }
         return NONE;
@@ -579,35 +592,37 @@ public final class CrossedLines {
 
     /** The greatest number of rules by which a call comes to one line; 0 without rules. */
     private int mostToOneLine(Tray seen, int c) {
-        int lines = board.plan.lines;
         Arrays.fill(comers, 0);
         int most = 0;
-        for (int u = 0; u < lines; u++) {
-            for (int v = 0; v < lines; v++) {
-                if (explains(seen, u, v)) {
-                    int came = byRule(u, v, board.fact(c, Board.FROM), board.fact(c, Board.TO));
-                    if (came >= 0 && came < MOST_LINES) {
-                        comers[came]++;
-                        most = Math.max(most, comers[came]);
-                    }
+        for (int rule = 0; rule < RULES_END; rule++) {
+            if (explains(rule, seen)) {
+                int came = byRule(rule, board.fact(c, Board.FROM), board.fact(c, Board.TO));
+                if (came >= 0 && came < MOST_LINES) {
+                    comers[came]++;
+                    most = Math.max(most, comers[came]);
                 }
             }
         }
         return most;
     }
 
-    private boolean explains(Tray seen, int u, int v) {
+    /** Whether 10 times u and v is a rule, and one by which all that was seen were so. */
+    private boolean explains(int rule, Tray seen) {
+        int lines = board.plan.lines;
+        if (rule / 10 >= lines || rule % 10 >= lines) {
+            return false;
+        }
         for (int i = 0; i + 2 < seen.many(); i += 3) {
-            if (byRule(u, v, (int) seen.at(i), (int) seen.at(i + 1)) != seen.at(i + 2)) {
+            if (byRule(rule, (int) seen.at(i), (int) seen.at(i + 1)) != seen.at(i + 2)) {
                 return false;
             }
         }
         return true;
     }
 
-    private int byRule(int u, int v, int from, int to) {
+    private int byRule(int rule, int from, int to) {
         int lines = board.plan.lines;
-        return lines > 0 ? (u * from + to + v) % lines : NONE;
+        return lines > 0 ? (rule / 10 * from + to + rule % 10) % lines : NONE;
     }
 
     // ---- trays, images
@@ -1447,31 +1462,32 @@ public final class CrossedLines {
         static final int CELLS = FIRST_CALL + MOST_CALLS * FACTS;
 
         private final int[] cells = new int[CELLS];
-        private Plan plan;
-        private boolean withoutSlips = false;
+        private final Course course = new Course();
+        Plan plan;
 
         Board(Plan plan) {
             this.plan = plan;
-            for (int l = 0; l < MOST_LINES; l++) {
-                cells[SPOUSES + l] = NONE;
-            }
+            clear();
         }
 
         void setUp(Plan told, Parser draft) {
             plan = told;
-            Arrays.fill(cells, 0);
-            for (int l = 0; l < MOST_LINES; l++) {
-                cells[SPOUSES + l] = NONE;
-            }
+            clear();
             cells[MINUTE] = draft.minute();
             for (int c = 0; c < draft.calls(); c++) {
                 addCall(draft.toldOf(c, FROM), draft.toldOf(c, TO), draft.toldOf(c, AT), draft.toldOf(c, LASTS));
             }
         }
 
+        private void clear() {
+            Arrays.fill(cells, 0);
+            for (int l = 0; l < MOST_LINES; l++) {
+                cells[SPOUSES + l] = NONE;
+            }
+        }
+
         void become(Board other) {
             plan = other.plan;
-            withoutSlips = other.withoutSlips;
             System.arraycopy(other.cells, 0, cells, 0, CELLS);
         }
 
@@ -1604,23 +1620,11 @@ public final class CrossedLines {
         int whereTo(int c, int minute) {
             int to = fact(c, TO);
             Law slips = plan.slips;
-            if (withoutSlips || slips == null || plan.lines <= 0) {
+            if (slips == null || plan.lines <= 0) {
                 return to;
             }
             slips.setVariables(fact(c, FROM), to, minute % 60, c);
             return (to + Math.floorMod(slips.value(), plan.lines)) % plan.lines;
-        }
-
-        /** Writes where each call will come to in place of the law, so that single ones can be led elsewhere. */
-        void settleSlips() {
-            for (int c = 0; c < calls(); c++) {
-                setFact(c, TO, whereTo(c, fact(c, AT)));
-            }
-            withoutSlips = true;
-        }
-
-        void lead(int c, int to) {
-            setFact(c, TO, to);
         }
 
         void neverBegin(int c) {
@@ -1704,12 +1708,10 @@ public final class CrossedLines {
         int pass(int n) {
             int end = minute() + n;
             int lost = 0;
-            for (int i = 0; i < MOST_CALLS; i++) {
-                int c = nextToCome(end);
-                if (c == NONE) {
-                    break;
-                }
-                if (!begins(c)) {
+            course.start(this);
+            for (int i = 0; i < course.many(); i++) {
+                int c = course.callAt(i);
+                if (fact(c, AT) < end && !begins(c)) {
                     lost++;
                 }
             }
@@ -1722,74 +1724,114 @@ public final class CrossedLines {
             return lost;
         }
 
-        /** The first by minutes, then by numbers, of those to come before a minute. */
-        private int nextToCome(int end) {
-            int next = NONE;
-            int soonest = end;
-            for (int c = 0; c < calls(); c++) {
-                if (isToCome(c) && fact(c, AT) < soonest) {
-                    next = c;
-                    soonest = fact(c, AT);
-                }
-            }
-            return next;
-        }
-
         /** A call's minute is there: whether it is on then; else it is lost. */
         private boolean begins(int c) {
             int at = fact(c, AT);
             int from = fact(c, FROM);
             int came = whereTo(c, at);
-            int cord = freeCord(from, came, busyCords(at));
-            if (came == from || isBarred(from, came, busyLines(at)) || cord == NONE) {
+            int cord = course.takeCord(plan, from, came, at, endOf(c));
+            if (cord == NONE) {
                 setFact(c, STATE, LOST);
                 return false;
             }
             setFact(c, STATE, ON);
             setFact(c, CAME, came);
             setFact(c, CORD, cord);
-            boolean free = spouse(from) == NONE && spouse(came) == NONE;
-            if (came != fact(c, TO) && free && plan.isWedding(from, came, at, c)) {
+            boolean single = spouse(from) == NONE && spouse(came) == NONE;
+            if (came != fact(c, TO) && single && plan.isWedding(from, came, at, c)) {
                 marry(from, came);
             }
             return true;
         }
+    }
 
-        /** Whether a door of two lines is shut, or one of them is busy. */
-        boolean isBarred(int l, int m, int busyLines) {
-            int both = 1 << l | 1 << m;
-            return ((cells[DOORS] | busyLines) & both) != 0;
+    /** The calls to come in the order in which they begin, and from when on lines and cords are free for them. */
+    private static final class Course {
+        private static final int NEVER = 1000000;
+
+        private final int[] order = new int[MOST_CALLS];
+        private int many = 0;
+        private final int[] lineFree = new int[MOST_LINES];
+        private final int[] cordFree = new int[MOST_CORDS];
+        private final int[] lineFreeFirst = new int[MOST_LINES];
+        private final int[] cordFreeFirst = new int[MOST_CORDS];
+
+        int many() {
+            return many;
         }
 
-        private boolean goesOn(int c, int minute) {
-            return fact(c, STATE) == ON && fact(c, AT) + fact(c, LASTS) > minute;
+        int callAt(int i) {
+            return i >= 0 && i < many && i < MOST_CALLS ? order[i] : NONE;
         }
 
-        /** The lines, as bits, that calls which are on now still hold in a minute. */
-        int busyLines(int minute) {
-            int bits = 0;
-            for (int c = 0; c < calls(); c++) {
-                if (goesOn(c, minute)) {
-                    bits |= 1 << fact(c, FROM) | 1 << fact(c, CAME);
+        void start(Board board) {
+            many = 0;
+            Arrays.fill(lineFree, 0);
+            Arrays.fill(cordFree, 0);
+            for (int c = 0; c < board.calls(); c++) {
+                if (board.isToCome(c)) {
+                    putInOrder(board, c);
+                } else if (board.isOn(c)) {
+                    hold(board.fact(c, Board.FROM), board.fact(c, Board.CAME), board.fact(c, Board.CORD), board.endOf(c));
                 }
             }
-            return bits;
-        }
-
-        /** The cords, as bits, that calls which are on now still hold in a minute. */
-        int busyCords(int minute) {
-            int bits = 0;
-            for (int c = 0; c < calls(); c++) {
-                if (goesOn(c, minute)) {
-                    bits |= 1 << fact(c, CORD);
+            for (int l = 0; l < MOST_LINES; l++) {
+                if (board.isShut(l)) {
+                    lineFree[l] = NEVER;
                 }
             }
-            return bits;
+            System.arraycopy(lineFree, 0, lineFreeFirst, 0, MOST_LINES);
+            System.arraycopy(cordFree, 0, cordFreeFirst, 0, MOST_CORDS);
         }
 
-        private int freeCord(int l, int m, int busy) {
+        /** Once more from where it started. */
+        void rewind() {
+            System.arraycopy(lineFreeFirst, 0, lineFree, 0, MOST_LINES);
+            System.arraycopy(cordFreeFirst, 0, cordFree, 0, MOST_CORDS);
+        }
+
+        /** By minutes, those of one minute by numbers: they come by numbers already. */
+        private void putInOrder(Board board, int c) {
+            if (many < 0 || many >= MOST_CALLS) {
+                return;
+            }
+            int place = many;
+            while (place > 0 && board.fact(order[place - 1], Board.AT) > board.fact(c, Board.AT)) {
+                order[place] = order[place - 1];
+                place--;
+            }
+            order[place] = c;
+            many++;
+        }
+
+        private void hold(int l, int m, int cord, int end) {
+            if (isLine(l) && isLine(m) && cord >= 0 && cord < MOST_CORDS) {
+                lineFree[l] = end;
+                lineFree[m] = end;
+                cordFree[cord] = end;
+            }
+        }
+
+        private static boolean isLine(int l) {
+            return l >= 0 && l < MOST_LINES;
+        }
+
+        boolean areFree(int l, int m, int minute) {
+            return isLine(l) && isLine(m) && lineFree[l] <= minute && lineFree[m] <= minute;
+        }
+
+        boolean isCordFree(int k, int minute) {
+            return k >= 0 && k < MOST_CORDS && cordFree[k] <= minute;
+        }
+
+        /** The cord by which a call is on then, held till its end; NONE: it is lost. */
+        int takeCord(Plan plan, int from, int came, int at, int end) {
+            if (from == came || !areFree(from, came, at)) {
+                return NONE;
+            }
             for (int k = 0; k < plan.cords; k++) {
-                if ((busy >> k & 1) == 0 && plan.reaches(k, l, m)) {
+                if (isCordFree(k, at) && plan.reaches(k, from, came)) {
+                    hold(from, came, k, end);
                     return k;
                 }
             }
@@ -1833,6 +1875,7 @@ public final class CrossedLines {
 
     /** The greatest set of calls to come that cords can take, all as they are meant. */
     private static final class Fitting {
+        private final Course course = new Course();
         private final int[] takes = new int[MOST_CORDS];
         private final int[] used = new int[MOST_CORDS];
         private final int[] meets = new int[MOST_CALLS];
@@ -1869,13 +1912,13 @@ public final class CrossedLines {
 
         /** Those, as bits, that no door and no call that is on keeps from being on. */
         private int ableCalls(Board board) {
+            course.start(board);
             int bits = 0;
-            for (int c = 0; c < board.calls(); c++) {
+            for (int i = 0; i < course.many(); i++) {
+                int c = course.callAt(i);
                 int at = board.fact(c, Board.AT);
-                int from = board.fact(c, Board.FROM);
-                int to = board.fact(c, Board.TO);
-                boolean waits = board.isToCome(c) && at >= board.minute();
-                if (waits && !board.isBarred(from, to, board.busyLines(at))) {
+                boolean isAhead = at >= board.minute();
+                if (isAhead && course.areFree(board.fact(c, Board.FROM), board.fact(c, Board.TO), at)) {
                     bits |= 1 << c;
                 }
             }
@@ -1885,8 +1928,8 @@ public final class CrossedLines {
         private int takenBy(Board board, int k) {
             int bits = 0;
             for (int c = 0; c < board.calls(); c++) {
-                boolean isFree = (board.busyCords(board.fact(c, Board.AT)) >> k & 1) == 0;
-                if (isFree && board.plan.reaches(k, board.fact(c, Board.FROM), board.fact(c, Board.TO))) {
+                boolean isReached = board.plan.reaches(k, board.fact(c, Board.FROM), board.fact(c, Board.TO));
+                if (isReached && course.isCordFree(k, board.fact(c, Board.AT))) {
                     bits |= 1 << c;
                 }
             }
@@ -1959,16 +2002,12 @@ public final class CrossedLines {
 
     /** The ways in which calls to come, led elsewhere than by the law, bring told twos together. */
     private static final class Crossing {
-        private final Board settled;
-        private final Board trial;
+        private final Course course = new Course();
+        private final int[] byLaw = new int[MOST_CALLS];
+        private final int[] comes = new int[MOST_CALLS];
         private final int[] picks = new int[MOST_TWOS];
         private final int[] first = new int[MOST_TWOS];
         private int ways = 0;
-
-        Crossing(Plan plan) {
-            settled = new Board(plan);
-            trial = new Board(plan);
-        }
 
         int ways() {
             return ways;
@@ -1980,43 +2019,48 @@ public final class CrossedLines {
 
         /** The picks run like the digits of a number, the first two's highest, so the first way is the least. */
         void seek(Board board, Tray twos) {
-            settled.become(board);
-            settled.settleSlips();
-            ways = 0;
-            int calls = settled.calls();
+            int calls = Math.min(board.calls(), MOST_CALLS);
             int many = Math.min(twos.many() / 2, MOST_TWOS);
             int end = 1;
             for (int i = 0; i < many; i++) {
                 end *= calls;
             }
+            for (int c = 0; c < calls; c++) {
+                byLaw[c] = board.whereTo(c, board.fact(c, Board.AT));
+            }
+            course.start(board);
+            ways = 0;
             for (int number = 0; number < end && calls > 0; number++) {
                 int rest = number;
                 for (int i = many - 1; i >= 0; i--) {
                     picks[i] = rest % calls;
                     rest /= calls;
                 }
-                if (arePicks(twos, many) && bringTogether(twos, many)) {
+                int picked = leadPicks(board, twos, many);
+                if (picked != 0 && bringsTogether(board, picked)) {
                     keepWay();
                 }
             }
         }
 
-        /** Whether each is to come, from one of its two, and picked once. */
-        private boolean arePicks(Tray twos, int many) {
-            int pickedBits = 0;
+        /** Leads each pick to the other line of its two: the picks as bits, or 0 if these can't be picks. */
+        private int leadPicks(Board board, Tray twos, int many) {
+            System.arraycopy(byLaw, 0, comes, 0, MOST_CALLS);
+            int picked = 0;
             for (int i = 0; i < many && i < MOST_TWOS; i++) {
                 int c = picks[i];
-                if (!settled.isToCome(c) || (pickedBits >> c & 1) == 1 || otherOf(twos, i, c) == NONE) {
-                    return false;
+                int other = otherOf(twos, i, board.fact(c, Board.FROM));
+                if (!board.isToCome(c) || (picked >> c & 1) == 1 || other == NONE || c < 0 || c >= MOST_CALLS) {
+                    return 0;
                 }
-                pickedBits |= 1 << c;
+                picked |= 1 << c;
+                comes[c] = other;
             }
-            return true;
+            return picked;
         }
 
-        /** The line of the i-th two that a call isn't from; NONE if it is from neither. */
-        private int otherOf(Tray twos, int i, int c) {
-            int from = settled.fact(c, Board.FROM);
+        /** The line of the i-th two beside one of them; NONE if that one is neither. */
+        private static int otherOf(Tray twos, int i, int from) {
             int one = (int) twos.at(2 * i);
             int other = (int) twos.at(2 * i + 1);
             if (from == one) {
@@ -2025,14 +2069,14 @@ public final class CrossedLines {
             return from == other ? one : NONE;
         }
 
-        private boolean bringTogether(Tray twos, int many) {
-            trial.become(settled);
-            for (int i = 0; i < many && i < MOST_TWOS; i++) {
-                trial.lead(picks[i], otherOf(twos, i, picks[i]));
-            }
-            trial.pass(FAR);
-            for (int i = 0; i < many && i < MOST_TWOS; i++) {
-                if (!trial.wasOn(picks[i])) {
+        private boolean bringsTogether(Board board, int picked) {
+            course.rewind();
+            for (int i = 0; i < course.many(); i++) {
+                int c = course.callAt(i);
+                int came = c >= 0 && c < MOST_CALLS ? comes[c] : NONE;
+                int at = board.fact(c, Board.AT);
+                int cord = course.takeCord(board.plan, board.fact(c, Board.FROM), came, at, board.endOf(c));
+                if (cord == NONE && (picked >> c & 1) == 1) {
                     return false;
                 }
             }
@@ -2153,48 +2197,6 @@ public final class CrossedLines {
         /** How much a line likes whom it is with; 0 if it is alone. */
         private static int contentment(Plan told, int[] with, int l) {
             return l >= 0 && l < with.length && with[l] >= 0 ? told.liking(l, with[l]) : 0;
-        }
-    }
-
-    /** How likely a call is lost, as a fraction in lowest terms, by one cord more at a time. */
-    private static final class Loss {
-        private static final int MOST_STEPS = 200;
-
-        private long above = 1;
-        private long below = 1;
-
-        long above() {
-            return above;
-        }
-
-        long below() {
-            return below;
-        }
-
-        void begin() {
-            above = 1;
-            below = 1;
-        }
-
-        void addCord(int c, int p, int q) {
-            long lost = p * above;
-            long all = (long) q * c * below + lost;
-            long common = commonDivisor(all, lost);
-            if (common > 0) {
-                above = lost / common;
-                below = all / common;
-            }
-        }
-
-        private static long commonDivisor(long a, long b) {
-            long x = a;
-            long y = b;
-            for (int i = 0; i < MOST_STEPS && y != 0; i++) {
-                long rest = x % y;
-                x = y;
-                y = rest;
-            }
-            return x;
         }
     }
 }

@@ -145,6 +145,12 @@ public final class DeedsTest {
         Check.due("count(8)", x.count(8), 2);
         Check.due("or, and, not", Check.told("lines 3;cord;slips:1;call 0 to 1 at 0 lasts 1;"
                 + "marries:1=2 or not 1=2 and [1>2 or 1<2];").weddings(1), 1);
+        String[] untrue = {"1<1", "1>1", "2<1", "1>2", "1=2", "not 1=1", "[1=1]and[1=2]", "[1=2]or[2=1]"};
+        for (String law : untrue) {
+            Check.due(law, Check.told("lines 3;cord;slips:1;call 0 to 1 at 0 lasts 1;marries:" + law + ";").weddings(1), 0);
+            Check.due("not " + law, Check.told("lines 3;cord;slips:1;call 0 to 1 at 0 lasts 1;marries:not[" + law
+                    + "];").weddings(1), 1);
+        }
         Check.due("and binds more than or", Check.told("lines 3;cord;slips:1;call 0 to 1 at 0 lasts 1;"
                 + "marries:1=1 or 1=1 and 1=2;").weddings(1), 1);
         Check.due("not binds most", Check.told("lines 3;cord;slips:1;call 0 to 1 at 0 lasts 1;"
@@ -223,7 +229,8 @@ public final class DeedsTest {
 
     private static void judgeWhy() {
         CrossedLines x = Check.told("lines 4;cord;call 0 to 1 at 0 lasts 1;");
-        long[] told = {0, 33, 34, 40, 99, 104, 199, 201, 299, 300, -2, 1L << 32, (1L << 32) - 1, Long.MIN_VALUE};
+        long[] told = {0, 33, 34, 40, 99, 104, 199, 201, 299, 300, -2, 1L << 32, (1L << 32) - 1, (1L << 32) + 1,
+            Long.MIN_VALUE};
         for (long v : told) {
             Check.tray(x, 0, v);
             Check.due("why not " + v, x.judge(0, 1), 1);
@@ -267,10 +274,12 @@ public final class DeedsTest {
     }
 
     private static void spring() {
-        for (int seed : new int[] {0, 1, -1, 77, 123456789, Integer.MIN_VALUE}) {
-            CrossedLines x = Check.told("lines 5;cord;cord 0 1 2;slips:minute;marries:1=1;");
-            CrossedLines y = Check.told("lines 5;cord;cord 0 1 2;slips:minute;marries:1=1;");
-            int draw = seed;
+        int pulled = 0;
+        for (int seed = -50; seed < 50; seed++) {
+            String text = "lines 5;cord;cord 0 1 2;slips:minute;marries:1=1;";
+            CrossedLines x = Check.told(text);
+            CrossedLines y = Check.told(text);
+            int draw = seed * 50000001;
             int done = 0;
             for (int i = 0; i < 30; i++) {
                 draw = draw * 1103515245 + 12345;
@@ -287,13 +296,16 @@ public final class DeedsTest {
                     }
                 }
                 Check.tray(y, 0, told);
-                done += y.perform(0);
+                int can = y.perform(0);
+                done += can;
+                pulled += sort == 4 ? can : 0;
             }
-            Check.due("spring(" + seed + ", 30)", x.spring(seed, 30), done);
+            Check.due("spring by " + seed, x.spring(seed * 50000001, 30), done);
             for (int what = 0; what < 11; what++) {
                 Check.due("sprung by " + seed + ": count(" + what + ")", x.count(what), y.count(what));
             }
         }
+        Check.due("some were pulled", pulled > 20 ? 1 : 0, 1);
         CrossedLines x = new CrossedLines();
         Check.refused("spring(1, 0)", Check.ARGUMENT, () -> x.spring(1, 0));
         Check.refused("spring(1, 31)", Check.ARGUMENT, () -> x.spring(1, 31));

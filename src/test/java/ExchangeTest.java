@@ -50,6 +50,15 @@ public final class ExchangeTest {
         Check.refused("exchange(1) of an empty tape", Check.ARGUMENT, () -> x.exchange(1));
         Check.due("feed anew", x.feed(0x6c696e65, 0x7320323b, 0x80000000, 0, 0), 20);
         Check.due("exchange of the highest bytes first", x.exchange(8), 1);
+        Check.feed(x, "lines 23;          ".getBytes());
+        Check.due("a text that is cut within a number", x.exchange(7), -12);
+        Check.due("its end", x.fault(1), 7);
+        Check.feed(x, "lines 2;cords      ".getBytes());
+        Check.due("a text that is cut within a word", x.exchange(12), -12);
+        Check.due("that end", x.fault(1), 12);
+        Check.feed(x, "lines 2;           ".getBytes());
+        Check.due("nothing of a text", x.exchange(0), -12);
+        Check.due("the tape is empty then", x.count(11), 0);
     }
 
     private static void text() {
@@ -90,6 +99,8 @@ public final class ExchangeTest {
         Check.fault("minute 1;lines 2;", 2, 0);
         Check.fault("lines 2;cord;lines 2;", 2, 13);
         Check.fault("lines 2;cords;", 2, 8);
+        Check.fault("lines 2;zz;", 2, 8);
+        Check.fault("lines 2;9;", 2, 8);
         Check.fault("lines 2;cord cord;", 2, 13);
         Check.fault("lines 2;call 0 to 1 lasts 1 at 1;", 2, 20);
         Check.fault("lines 2;slips:likes;", 2, 14);

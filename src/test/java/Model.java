@@ -481,4 +481,42 @@ final class Model {
         }
         return -1;
     }
+
+    // ---- rules
+
+    List<Integer> rules(long[] threes) {
+        List<Integer> rules = new ArrayList<>();
+        for (int rule = 0; rule < 80; rule++) {
+            boolean holds = rule / 10 < lines && rule % 10 < lines;
+            for (int i = 0; i < threes.length; i += 3) {
+                holds &= byRule(rule, (int) threes[i], (int) threes[i + 1]) == threes[i + 2];
+            }
+            if (holds) {
+                rules.add(rule);
+            }
+        }
+        return rules;
+    }
+
+    private int byRule(int rule, int from, int to) {
+        return (rule / 10 * from + to + rule % 10) % lines;
+    }
+
+    int ask(List<Integer> rules) {
+        int first = -1;
+        long least = Long.MAX_VALUE;
+        for (int c = 0; c < calls.size() && !rules.isEmpty(); c++) {
+            long most = 0;
+            for (int l = 0; l < lines; l++) {
+                int line = l;
+                int[] call = calls.get(c);
+                most = Math.max(most, rules.stream().filter(rule -> byRule(rule, call[0], call[1]) == line).count());
+            }
+            if (most < least) {
+                first = c;
+                least = most;
+            }
+        }
+        return first;
+    }
 }

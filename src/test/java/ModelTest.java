@@ -48,6 +48,7 @@ public final class ModelTest {
             toCome();
             cords();
             crossed();
+            rules();
         }
     }
 
@@ -154,6 +155,26 @@ public final class ModelTest {
         for (int i = 0; i < twos.length / 2; i++) {
             due("crossed of " + Arrays.toString(twos) + " " + i, x.crossed(0, i), ways.isEmpty() ? -1 : ways.get(0)[i]);
         }
+    }
+
+    private void rules() {
+        long[] threes = new long[3 + 3 * random.nextInt(3)];
+        int u = random.nextInt(model.lines);
+        int v = random.nextInt(model.lines);
+        for (int i = 0; i < threes.length; i += 3) {
+            threes[i] = random.nextInt(model.lines);
+            threes[i + 1] = random.nextInt(model.lines);
+            boolean isOdd = random.nextInt(9) == 0;
+            threes[i + 2] = isOdd ? random.nextInt(model.lines) : (u * threes[i] + threes[i + 1] + v) % model.lines;
+        }
+        Check.tray(x, 1, threes);
+        calls += 1 + threes.length;
+        List<Integer> rules = model.rules(threes);
+        String told = " of " + Arrays.toString(threes);
+        due("rules" + told, x.rules(1), rules.size());
+        int k = random.nextInt(rules.size() + 2);
+        due("rule " + k + told, x.rule(1, k), k < rules.size() ? rules.get(k) : -1);
+        due("ask" + told, x.ask(1), model.ask(rules));
     }
 
     private void pairs() {
