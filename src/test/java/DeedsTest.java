@@ -269,6 +269,12 @@ public final class DeedsTest {
         Check.due("all is undone", x.count(3), 0);
         Check.tray(x, 3);
         Check.due("nothing told", x.perform(3), 0);
+        for (int l = 0; l < 4; l++) {
+            Check.tray(x, 3, 100 + l);
+            Check.due("door " + l, x.perform(3), 1);
+            Check.due("shut " + l, x.line(l, 2), 1);
+        }
+        Check.due("doors are no calls", x.count(3), 0);
         Check.refused("perform(4)", Check.ELEMENT, () -> x.perform(4));
         Check.refused("perform(0)", Check.STATE, () -> x.perform(0));
     }
