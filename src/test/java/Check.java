@@ -10,6 +10,8 @@ final class Check {
 
     private static int wrong = 0;
     private static int asked = 0;
+    private static Sentences sentences = null;
+    private static String about = "";
 
     interface Call {
         long answer();
@@ -18,11 +20,41 @@ final class Check {
     private Check() {
     }
 
+    /** What is asked from here on tests these words of a promise, or of the terms (promise 0). */
+    static void sentence(int promise, String words) {
+        if (sentences == null) {
+            sentences = new Sentences();
+        }
+        about = "";
+        due("'" + words + "' stands in promise " + promise, sentences.stand(promise, words) ? 1 : 0, 1);
+        about = "[" + (promise == 0 ? "terms" : "promise " + promise) + ": " + words + "] ";
+    }
+
+    /** Whether a test has quoted each of some promises. */
+    static void quoted(int first, int last) {
+        about = "";
+        for (int p = first; p <= last; p++) {
+            due("promise " + p + " is quoted", sentences != null && sentences.isQuoted(p) ? 1 : 0, 1);
+        }
+    }
+
     static void due(String what, long got, long want) {
         asked++;
         if (got != want) {
             wrong++;
-            System.out.println(what + " answered " + got + ", due is " + want);
+            System.out.println(about + what + " answered " + got + ", due is " + want);
+        }
+    }
+
+    static void due(String what, boolean got, boolean want) {
+        due(what, got ? 1 : 0, want ? 1 : 0);
+    }
+
+    static void same(String what, String got, String want) {
+        asked++;
+        if (!got.equals(want)) {
+            wrong++;
+            System.out.println(about + what + " told " + got + ", due is " + want);
         }
     }
 
@@ -31,11 +63,11 @@ final class Check {
         try {
             long got = call.answer();
             wrong++;
-            System.out.println(what + " answered " + got + ", due is " + kind.getSimpleName());
+            System.out.println(about + what + " answered " + got + ", due is " + kind.getSimpleName());
         } catch (RuntimeException e) {
             if (e.getClass() != kind) {
                 wrong++;
-                System.out.println(what + " threw " + e + ", due is " + kind.getSimpleName());
+                System.out.println(about + what + " threw " + e + ", due is " + kind.getSimpleName());
             }
         }
     }
