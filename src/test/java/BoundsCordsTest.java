@@ -180,6 +180,10 @@ public final class BoundsCordsTest {
         Check.sentence(0, "the most that can be ON");
         best("one line in two calls at once", Check.told("lines 4;cord;cord;call 0 to 1 at 0 lasts 3;call 2 to 1 at 2 lasts 1;"),
                 1, 1);
+        best("from one line to two at once", Check.told("lines 4;cord;cord;call 2 to 1 at 0 lasts 3;call 2 to 0 at 2 lasts 1;"), 1, 1);
+        best("from one line to two, one behind the other", Check.told("lines 4;cord;cord;call 2 to 1 at 0 lasts 2;"
+                + "call 2 to 0 at 2 lasts 1;"), 2, 3);
+        best("there and back at once", Check.told("lines 4;cord;cord;call 2 to 1 at 0 lasts 3;call 1 to 2 at 2 lasts 1;"), 1, 1);
         best("one behind the other", Check.told("lines 4;cord;cord;call 0 to 1 at 0 lasts 2;call 2 to 1 at 2 lasts 1;"), 2, 3);
         best("from, to and from", Check.told("lines 4;cord;cord;cord;call 0 to 1 at 0 lasts 3;call 1 to 2 at 1 lasts 1;"
                 + "call 3 to 0 at 2 lasts 1;"), 2, 6);

@@ -17,6 +17,8 @@ public final class BoundsTextTest {
         firstBytes();
         tapeIsEmptyThen();
         afresh();
+        nothingIsLeft();
+        nothingOfAFault();
         howManyLines();
         lessTheFault();
         faultKept();
@@ -180,6 +182,34 @@ public final class BoundsTextTest {
             Check.due("line(" + l + ", 2)", x.line(l, 2), 0);
         }
         Check.refused("undo(1)", Check.ARGUMENT, () -> x.undo(1));
+    }
+
+    private static void nothingIsLeft() {
+        Check.sentence(0, "in which MINUTE, 0 to 999");
+        Check.sentence(0, "minute: the first one, 0 to 999 (0).");
+        CrossedLines x = Check.told("lines 2;minute 77;");
+        Check.due("minute of the first text", x.count(9), 77);
+        Check.exchange(x, "lines 2;cord;call 0 to 1 at 3 lasts 1;");
+        Check.due("minute of a text without one", x.count(9), 0);
+        Check.due("its call", x.call(0, 4), 0);
+        Twins.alike("an exchange behind another one", y -> {
+            Check.exchange(y, "lines 8;cord 1;cord 2;cord 3;slips:9;likes:who;marries:1=1;call 2 to 3 at 5 lasts 6;"
+                    + "call 4 to 5 at 7 lasts 8;minute 6;");
+            y.minutes(3);
+            Check.exchange(y, "lines 3;cord;");
+        }, y -> Check.exchange(y, "lines 3;cord;"));
+    }
+
+    private static void nothingOfAFault() {
+        Check.sentence(3, "-10 less the FAULT (all else stays)");
+        String[] spoilt = {"lines 8;cord 1;cord 2;cord 3;minute 500;slips:9;likes:who+5;marries:1=1;call 2 to 3 at 5 lasts 6;x",
+                "lines 7;minute 9;slips:1+", "lines 7;likes:9;likes:(who", "lines 7;marries:1=", "lines 7;call 5 to 6 at 9"};
+        for (String text : spoilt) {
+            Twins.alike("a good text behind " + text, y -> {
+                Check.exchange(y, text);
+                Check.exchange(y, "lines 3;cord;call 0 to 1 at 0 lasts 2;");
+            }, y -> Check.exchange(y, "lines 3;cord;call 0 to 1 at 0 lasts 2;"));
+        }
     }
 
     private static void howManyLines() {
@@ -648,6 +678,11 @@ public final class BoundsTextTest {
         CrossedLines z = Check.told("lines 4;cord;slips:1;marries:1=2;call 0 to 1 at 5 lasts 1;marries:1=1;minute 6;minute 5;");
         Check.due("marries", z.weddings(1), 1);
         Check.due("the longer first", Check.told("lines 4;likes:who*7+whom*3-5;likes:1;").likes(2, 3), 1);
+        Check.due("the hundredth of its kind", Check.told("lines 4;" + "likes:1;".repeat(99) + "likes:who*9-whom;").likes(3, 1), 26);
+        CrossedLines many = Check.told("lines 4;cord;call 0 to 1 at 0 lasts 1;" + "slips:2;".repeat(40) + "marries:1=2;".repeat(30)
+                + "slips:1;marries:from=0 and to=2;");
+        Check.due("many laws: where it comes to", many.comesTo(0, 0), 2);
+        Check.due("many laws: who marries", many.weddings(1), 1);
         CrossedLines none = Check.told("lines 4;");
         Check.due("a law of an earlier text is none of this one", Check.exchange(x, "lines 4;call 0 to 1 at 0 lasts 1;"), 2);
         Check.due("likes of none", x.likes(0, 1), none.likes(0, 1));

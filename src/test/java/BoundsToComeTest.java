@@ -178,6 +178,12 @@ public final class BoundsToComeTest {
                 + "call 0 to 2 at 2 lasts 2;");
         Check.due("that of 3 is lost, so that of 6", x.together(0, 1), 6);
         Check.due("together(2, 0)", x.together(2, 0), 2);
+        CrossedLines y = Check.told("lines 4;cord;call 1 to 2 at 3 lasts 1;call 3 to 0 at 4 lasts 1;call 0 to 3 at 5 lasts 1;"
+                + "call 2 to 1 at 6 lasts 1;call 0 to 1 at 8 lasts 1;");
+        Check.due("each with another one ahead of it: together(0, 1)", y.together(0, 1), 8);
+        Check.due("each with another one ahead of it: together(1, 0)", y.together(1, 0), 8);
+        Check.due("never: together(0, 2)", y.together(0, 2), -1);
+        Check.due("never: together(1, 3)", y.together(1, 3), -1);
     }
 
     private static void togetherBothOne() {

@@ -19,7 +19,7 @@ final class Texts {
             told.append(';');
         }
         int span = 5 + random.nextInt(30);
-        for (int c = random.nextInt(9); c > 0; c--) {
+        for (int c = random.nextInt(11); c > 0; c--) {
             int from = random.nextInt(lines);
             int to = (from + 1 + random.nextInt(lines - 1)) % lines;
             told.append("call ").append(from).append(" to ").append(to).append(" at ").append(random.nextInt(span))
