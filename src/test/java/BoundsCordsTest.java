@@ -398,6 +398,11 @@ public final class BoundsCordsTest {
         ways("another one has the cord", Check.told("lines 4;cord;" + calls), 0, null, 2, 3);
         ways("another one is lost by the law", Check.told("lines 4;cord;slips:3;" + calls), 1, new int[] {1}, 2, 3);
         ways("another one by its minute's law", Check.told("lines 4;cord;slips:3*minute;minute 0;" + calls), 0, null, 2, 3);
+        String late = "call 0 to 1 at 6 lasts 5;call 2 to 3 at 7 lasts 1;";
+        ways("another one comes to itself by the law of its minute", Check.told("lines 4;cord;slips:1-minute+8;" + late), 1,
+                new int[] {1}, 2, 3);
+        ways("another one comes to itself by the law of another minute", Check.told("lines 4;cord;slips:minute+3;" + late), 0,
+                null, 2, 3);
         ways("a picked one leaves the cord to none", Check.told("lines 4;cord;slips:3;" + calls), 0, null, 2, 3, 0, 1);
     }
 

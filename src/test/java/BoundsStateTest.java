@@ -195,6 +195,13 @@ public final class BoundsStateTest {
             Check.due("one to come, in " + n + ", be it itself or shut", x.comesTo(2, n), (2 + 2 * (1 + n)) % 4);
         }
         Check.due("nothing goes by", x.count(9), 1);
+        Check.sentence(0, "from, to: LINES, minute: MINUTE modulo 60, call: its number");
+        String[] laws = {"from", "to", "minute", "call", "from*2+to", "call*3-from"};
+        int[] slips = {6, 4, 2, 1, 16, -3};
+        for (int i = 0; i < laws.length; i++) {
+            CrossedLines y = Check.told("lines 7;slips:" + laws[i] + ";call 0 to 1 at 0 lasts 1;call 6 to 4 at 65 lasts 3;minute 60;");
+            Check.due("slips:" + laws[i], y.comesTo(1, 2), Math.floorMod(4 + slips[i], 7));
+        }
     }
 
     // ---- terms: calls and laws
@@ -417,6 +424,14 @@ public final class BoundsStateTest {
             minutes(x, 2);
             Check.due("call " + second[i] + " while 0 and 1 are busy", x.call(1, 4), want[i]);
         }
+        String[] later = {"3 to 4", "4 to 3", "1 to 4", "4 to 1", "2 to 4", "0 to 2"};
+        for (int i = 0; i < later.length; i++) {
+            CrossedLines y = Check.told("lines 5;cord;cord;cord;call 3 to 1 at 1 lasts 3;call " + later[i] + " at 3 lasts 1;minute 1;");
+            y.minutes(1);
+            y.minutes(1);
+            y.minutes(1);
+            Check.due("call " + later[i] + " while 3 and 1 are busy since an earlier deed", y.call(1, 4), want[i]);
+        }
         CrossedLines slipped = Check.told("lines 4;cord;cord;slips:2-2*call;call 0 to 1 at 0 lasts 2;call 1 to 2 at 1 lasts 1;"
                 + "call 3 to 1 at 1 lasts 1;");
         minutes(slipped, 2);
@@ -493,7 +508,8 @@ public final class BoundsStateTest {
         Check.sentence(0, "one of = < >");
         String[] edges = {"2=2", "1<2", "2>1", "not 1=2", "not 2<2", "not 2>2", "not 2<1", "not 1>2", "1=1 or 1=2",
             "1=2 or 1=1", "not[1=2 or 2=1]", "not[1=1 and 1=2]", "1=1 and 2=2", "1=2 and 1=2 or 1=1", "1=1 or 1=2 and 1=2",
-            "not 1=2 and 1=1", "not not 1=1"};
+            "not 1=2 and 1=1", "not not 1=1", "not[1=2 and 1=1]", "not[1=1 and 1=2 and 1=1]", "1=2 or 1=2 or 1=1", "1=1 or 1=2 or 1=2",
+            "not[[1=1 or 1=1] and 1=2]", "[1=1 or 1=2] and [1=2 or 1=1]", "not[1=2 or 1=1 and 1=2]"};
         for (String law : edges) {
             Check.due(law, Check.told(text + "marries:" + law + ";").weddings(1), 1);
             Check.due("not[" + law + "]", Check.told(text + "marries:not[" + law + "];").weddings(1), 0);

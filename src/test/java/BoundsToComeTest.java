@@ -271,6 +271,11 @@ public final class BoundsToComeTest {
         pulled.minutes(1);
         pulled.pull(0);
         Check.due("a pulled one is in no use", pulled.busiest(9), 1);
+        CrossedLines late = Check.told("lines 4;cord;call 0 to 1 at 0 lasts 99;call 2 to 3 at 12 lasts 1;");
+        late.minutes(1);
+        Check.due("while one is on", late.busiest(20), 0);
+        late.pull(0);
+        Check.due("behind a pulled one", late.busiest(20), 11);
     }
 
     // ---- promise 23

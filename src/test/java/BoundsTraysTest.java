@@ -194,6 +194,15 @@ public final class BoundsTraysTest {
             x.minutes(1);
         }
         Check.due("one was lost", x.count(7), 1);
+        CrossedLines pulled = Check.told("lines 6;cord;cord;call 0 to 1 at 0 lasts 9;call 2 to 3 at 0 lasts 3;call 4 to 5 at 2 lasts 1;");
+        pulled.minutes(1);
+        pulled.pull(0);
+        pulled.tray(1, 2, 4);
+        pulled.copy(1);
+        int[] uses = {1, 2, 0, 0};
+        for (int i = 0; i < uses.length; i++) {
+            Check.due("one is pulled: place " + i, held(pulled, 1, 4, i), uses[i]);
+        }
     }
 
     private static void copyCut() {
