@@ -18,6 +18,7 @@ public final class BoundsTextTest {
         tapeIsEmptyThen();
         afresh();
         nothingIsLeft();
+        traysAndImagesStay();
         nothingOfAFault();
         howManyLines();
         lessTheFault();
@@ -200,6 +201,24 @@ public final class BoundsTextTest {
         }, y -> Check.exchange(y, "lines 3;cord;"));
     }
 
+    private static void traysAndImagesStay() {
+        Check.sentence(3, "are THE EXCHANGE, nobody MARRIED, all DOORS open, no DEEDS");
+        CrossedLines x = Check.told("lines 3;cord;likes:7;");
+        x.image(1);
+        Check.tray(x, 0, -1, -1);
+        Check.tray(x, 3, 0, 1, 2);
+        Check.exchange(x, "lines 4;cord;call 0 to 1 at 0 lasts 1;");
+        Check.due("a tray as it was", x.perform(0), 2);
+        Check.due("another one as it was", x.rules(3), 4);
+        Check.refused("one that was missing", Check.STATE, () -> x.perform(1));
+        x.restore(1);
+        Check.due("an image as it was", x.likes(0, 1), 7);
+        Check.refused("one that wasn't made", Check.STATE, () -> {
+            x.restore(0);
+            return 0;
+        });
+    }
+
     private static void nothingOfAFault() {
         Check.sentence(3, "-10 less the FAULT (all else stays)");
         String[] spoilt = {"lines 8;cord 1;cord 2;cord 3;minute 500;slips:9;likes:who+5;marries:1=1;call 2 to 3 at 5 lasts 6;x",
@@ -248,6 +267,17 @@ public final class BoundsTextTest {
                 Twins.rich(y);
                 y.exchange(0);
             });
+            CrossedLines z = Check.told("lines 3;cord;slips:1;marries:1=1;call 0 to 1 at 0 lasts 5;");
+            z.minutes(1);
+            z.door(2);
+            Check.exchange(z, text);
+            int[] counts = {5, 3, 1, 1, 0, 1, 0, 0, 1, 1, 2, 0};
+            for (int what = 0; what < counts.length; what++) {
+                Check.due("behind " + text + " count(" + what + ")", z.count(what), counts[what]);
+            }
+            Check.due("the door is shut", z.line(2, 2), 1);
+            Check.due("undo(2)", z.undo(2), 0);
+            Check.due("minute", z.count(9), 0);
         }
     }
 
