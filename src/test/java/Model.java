@@ -321,7 +321,129 @@ final class Model {
         return first;
     }
 
+    /** How many cords are in use at the ends of this minute and of the next ones. */
+    long[] uses(int minutes) {
+        long[] uses = new long[minutes];
+        Model m = new Model(this);
+        for (int i = 0; i < minutes; i++) {
+            m.step(null);
+            for (int k = 0; k < reach.size(); k++) {
+                uses[i] += m.callOn(k) >= 0 ? 1 : 0;
+            }
+        }
+        return uses;
+    }
+
+    // ---- told deeds
+
+    /** Why a told deed can't be; 0 if it can. */
+    int whyNot(long told) {
+        if (told == -1) {
+            return 0;
+        }
+        if (0 <= told && told <= 99) {
+            long l = told / 10;
+            long m = told % 10;
+            return l >= lines || m >= lines || l == m ? 1 : calls.size() == 10 ? 2 : 0;
+        }
+        if (100 <= told && told < 100 + lines) {
+            return 0;
+        }
+        if (200 <= told && told < 200 + calls.size()) {
+            return calls.get((int) told - 200)[4] == 1 ? 0 : 2;
+        }
+        return 1;
+    }
+
+    void told(long told) {
+        int v = (int) told;
+        if (v == -1) {
+            step(null);
+        } else if (v < 100) {
+            calls.add(new int[] {v / 10, v % 10, minute, 5, 0, -1, -1});
+        } else if (v < 200) {
+            shut[v - 100] = !shut[v - 100];
+        } else {
+            calls.get(v - 200)[4] = 2;
+        }
+    }
+
+    /** What judge() answers for 0 to 3. */
+    int[] judged(long[] row) {
+        Model m = new Model(this);
+        for (int i = 0; i < row.length; i++) {
+            int why = m.whyNot(row[i]);
+            if (why != 0) {
+                return new int[] {i, why, m.tally(3), m.twos()};
+            }
+            m.told(row[i]);
+        }
+        return new int[] {-1, 0, m.tally(3), m.twos()};
+    }
+
     // ---- cords
+
+    private boolean joins(int k, int l, int m) {
+        return (reach.get(k) >> l & 1) == 1 && (reach.get(k) >> m & 1) == 1;
+    }
+
+    int enough() {
+        for (int many = 0; many <= reach.size(); many++) {
+            for (int set = 0; set < 1 << reach.size(); set++) {
+                if (Integer.bitCount(set) == many && joinsAll(set)) {
+                    return many;
+                }
+            }
+        }
+        return -1;
+    }
+
+    private boolean joinsAll(int set) {
+        int joined = 0;
+        for (int l = 0; l < lines; l++) {
+            for (int m = 0; m < l; m++) {
+                for (int k = 0; k < reach.size(); k++) {
+                    if ((set >> k & 1) == 1 && joins(k, l, m)) {
+                        joined++;
+                        break;
+                    }
+                }
+            }
+        }
+        return joined == lines * (lines - 1) / 2;
+    }
+
+    /** Tries each cord for each two. */
+    boolean atOnce(int[] twos) {
+        int many = twos.length / 2;
+        for (int number = 0; number < 27; number++) {
+            int[] by = {number % 3, number / 3 % 3, number / 9};
+            boolean can = true;
+            for (int i = 0; i < many; i++) {
+                can &= by[i] < reach.size() && joins(by[i], twos[2 * i], twos[2 * i + 1]);
+                for (int j = 0; j < i; j++) {
+                    can &= by[i] != by[j];
+                }
+            }
+            if (can) {
+                return true;
+            }
+        }
+        return false;
+    }
+
+    int darlings() {
+        int first = -1;
+        for (int two = 1; two < 10 * lines; two++) {
+            int l = two / 10;
+            int m = two % 10;
+            if (l < m && m < lines && (first < 0 || liking(l, m) + liking(m, l)
+                    > liking(first / 10, first % 10) + liking(first % 10, first / 10))) {
+                first = two;
+            }
+        }
+        return first;
+    }
 
     /** The greatest and of these the least set: 1000 times its bits, and how many. */
     int best(int freeCords) {

@@ -1,5 +1,7 @@
 import java.util.ArrayDeque;
+import java.util.ArrayList;
 import java.util.Arrays;
+import java.util.Collections;
 import java.util.Deque;
 import java.util.List;
 import java.util.Random;
@@ -7,21 +9,29 @@ import java.util.Random;
 /** Random exchanges and deeds, each answer compared with the plain model's. */
 public final class ModelTest {
     private static final int RUNS = 1500;
-    // An object is used for at most 512 calls; one round of questions takes fewer than 150.
-    private static final int LAST_ROUND = 350;
+    // An object is used for at most 512 calls; one round of deeds and questions takes fewer than 250.
+    private static final int LAST_ROUND = 260;
 
     private final Random random;
     private final String text;
     private final CrossedLines x;
     private Model model;
-    private final Deque<Model> undone = new ArrayDeque<>();
+    /** The models as they were ahead of each deed that can be undone, the latest first; none of these ever changes. */
+    private Deque<Model> undone = new ArrayDeque<>();
+    private final Model[] images = new Model[3];
+    private final List<Deque<Model>> imagesUndone = new ArrayList<>();
     private int calls = 0;
+    private int draw = 0;
 
     private ModelTest(long seed) {
         random = new Random(seed);
         text = new Texts(random).exchange();
         x = Check.told(text);
+        calls = (text.length() + 19) / 20 + 1;
         model = new Model(text);
+        for (int i = 0; i < images.length; i++) {
+            imagesUndone.add(null);
+        }
     }
 
     public static void main(String[] args) {
@@ -46,49 +56,167 @@ public final class ModelTest {
             }
             state();
             toCome();
+            judge();
+            copy();
             cords();
+            atOnce();
             crossed();
             rules();
         }
+        Check.due("at most 512 calls", calls <= 512, true);
     }
 
     // ---- deeds
 
     private void deed() {
-        int sort = random.nextInt(12);
-        if (sort == 0 && !undone.isEmpty()) {
-            int n = 1 + random.nextInt(undone.size());
-            due("undo(" + n + ")", x.undo(n), undone.size() - n);
-            for (int i = 0; i < n; i++) {
-                model = undone.pop();
-            }
-            return;
-        }
-        Model before = new Model(model);
+        int sort = random.nextInt(17);
         if (sort < 5) {
+            Model before = new Model(model);
             int n = 1 + random.nextInt(5);
             due("minutes(" + n + ")", x.minutes(n), model.steps(n));
+            keep(before);
         } else if (sort < 8) {
+            Model before = new Model(model);
             int l = random.nextInt(model.lines);
-            model.shut[l] = !model.shut[l];
+            model.told(100 + l);
             due("door(" + l + ")", x.door(l), model.shut[l] ? 1 : 0);
-        } else if (sort < 10 && model.calls.size() < 10) {
-            int l = random.nextInt(model.lines);
-            int m = (l + 1 + random.nextInt(model.lines - 1)) % model.lines;
-            int lasts = 1 + random.nextInt(12);
-            due("dial", x.dial(l, m, lasts), model.calls.size());
-            model.calls.add(new int[] {l, m, model.minute, lasts, 0, -1, -1});
+            keep(before);
+        } else if (sort < 10) {
+            dial();
+        } else if (sort < 12) {
+            pull();
+        } else if (sort == 12) {
+            undo();
+        } else if (sort == 13) {
+            perform();
+        } else if (sort == 14) {
+            spring();
         } else {
-            int c = model.callOn(0);
-            if (c < 0) {
-                return;
-            }
-            model.calls.get(c)[4] = 2;
-            due("pull(" + c + ")", x.pull(c), 0);
+            image(random.nextInt(3));
         }
+    }
+
+    private void keep(Model before) {
         undone.push(before);
         if (undone.size() > 10) {
             undone.removeLast();
+        }
+    }
+
+    private void dial() {
+        int l = random.nextInt(10) - 1;
+        int m = random.nextInt(10) - 1;
+        int lasts = random.nextInt(15);
+        boolean wrong = l < 0 || m < 0 || l >= model.lines || m >= model.lines || l == m || lasts == 0;
+        String what = "dial(" + l + ", " + m + ", " + lasts + ")";
+        if (wrong || model.calls.size() == 10) {
+            due(what, x.dial(l, m, lasts), wrong ? -1 : -2);
+            return;
+        }
+        keep(new Model(model));
+        due(what, x.dial(l, m, lasts), model.calls.size());
+        model.calls.add(new int[] {l, m, model.minute, lasts, 0, -1, -1});
+    }
+
+    private void pull() {
+        int c = random.nextInt(12) - 1;
+        int why = c < 0 ? 1 : model.whyNot(200 + c);
+        if (why != 0) {
+            due("pull(" + c + ")", x.pull(c), -10 - why);
+            return;
+        }
+        keep(new Model(model));
+        due("pull(" + c + ")", x.pull(c), model.calls.get(c)[6]);
+        model.told(200 + c);
+    }
+
+    private void undo() {
+        if (undone.isEmpty()) {
+            Check.refused(text + " undo(1)", Check.ARGUMENT, () -> x.undo(1));
+            calls++;
+            return;
+        }
+        int n = 1 + random.nextInt(undone.size());
+        due("undo(" + n + ")", x.undo(n), undone.size() - n);
+        for (int i = 0; i < n; i++) {
+            model = new Model(undone.pop());
+        }
+    }
+
+    private void perform() {
+        long[] told = toldDeeds();
+        int done = 0;
+        while (done < told.length && model.whyNot(told[done]) == 0) {
+            keep(new Model(model));
+            model.told(told[done]);
+            done++;
+        }
+        due("perform of " + Arrays.toString(told), x.perform(2), done);
+    }
+
+    /** Random told deeds in tray 2, as they are there. */
+    private long[] toldDeeds() {
+        int sort = random.nextInt(4);
+        long[] told = new long[random.nextInt(10)];
+        x.tray(2, sort, told.length);
+        calls++;
+        for (int i = 0; i < told.length; i++) {
+            long v = switch (random.nextInt(9)) {
+                case 0, 1, 2 -> -1;
+                case 3, 4 -> 10 * random.nextInt(model.lines) + random.nextInt(model.lines);
+                case 5 -> 100 + random.nextInt(model.lines);
+                case 6 -> 200 + Math.max(0, model.callOn(random.nextInt(3)));
+                case 7 -> random.nextInt(320) - 10;
+                default -> random.nextLong() << 32 | 101;
+            };
+            told[i] = sort == 0 ? (byte) v : sort == 1 ? (short) v : sort == 2 ? (int) v : v;
+            due("write(2, " + i + ", " + v + ")", x.write(2, i, v), told[i]);
+        }
+        return told;
+    }
+
+    private int draw(int modulo) {
+        draw = draw * 1103515245 + 12345;
+        return (draw >>> 16) % modulo;
+    }
+
+    private void spring() {
+        int seed = random.nextInt();
+        int times = 1 + random.nextInt(12);
+        draw = seed;
+        int done = 0;
+        for (int i = 0; i < times; i++) {
+            int told = switch (draw(5)) {
+                case 2 -> 10 * draw(model.lines) + draw(model.lines);
+                case 3 -> 100 + draw(model.lines);
+                case 4 -> 200 + draw(10);
+                default -> -1;
+            };
+            if (model.whyNot(told) == 0) {
+                keep(new Model(model));
+                model.told(told);
+                done++;
+            }
+        }
+        due("spring(" + seed + ", " + times + ")", x.spring(seed, times), done);
+    }
+
+    /** An image is made, or all is as in one that was made. */
+    private void image(int i) {
+        calls++;
+        if (images[i] == null && random.nextInt(4) == 0) {
+            Check.refused(text + " restore(" + i + ")", Check.STATE, () -> {
+                x.restore(i);
+                return 0;
+            });
+        } else if (images[i] == null || random.nextBoolean()) {
+            x.image(i);
+            images[i] = new Model(model);
+            imagesUndone.set(i, new ArrayDeque<>(undone));
+        } else {
+            x.restore(i);
+            model = new Model(images[i]);
+            undone = new ArrayDeque<>(imagesUndone.get(i));
         }
     }
 
@@ -132,6 +260,48 @@ public final class ModelTest {
         int l = random.nextInt(model.lines);
         int m = (l + 1 + random.nextInt(model.lines - 1)) % model.lines;
         due("together(" + l + ", " + m + ")", x.together(l, m), model.together(l, m));
+    }
+
+    private void judge() {
+        long[] told = toldDeeds();
+        judged("judge of " + Arrays.toString(told), 2, told);
+    }
+
+    private void judged(String what, int tray, long[] told) {
+        int[] want = model.judged(told);
+        for (int i = 0; i < want.length; i++) {
+            due(what + " " + i, x.judge(tray, i), want[i]);
+        }
+    }
+
+    /** What was copied is told by what the numbers say as deeds, and as threes that were seen. */
+    private void copy() {
+        int many = random.nextInt(31);
+        x.tray(3, random.nextInt(4), many);
+        calls++;
+        long[] want = model.uses(many);
+        due("copy", x.copy(3), many);
+        String what = "copied " + Arrays.toString(want);
+        judged(what, 3, want);
+        boolean areLines = Arrays.stream(want).allMatch(v -> v < model.lines);
+        if (many % 3 == 0 && many >= 3 && many <= 15 && areLines) {
+            due(what + " as threes", x.rules(3), model.rules(want).size());
+        }
+    }
+
+    private void atOnce() {
+        due("enough()", x.enough(), model.enough());
+        due("darlings()", x.darlings(), model.darlings());
+        List<Integer> all = new ArrayList<>();
+        for (int l = 0; l < model.lines; l++) {
+            all.add(l);
+        }
+        Collections.shuffle(all, random);
+        int[] twos = new int[2 + 2 * random.nextInt(Math.min(3, model.lines / 2))];
+        Arrays.setAll(twos, all::get);
+        Check.tray(x, 1, Arrays.stream(twos).asLongStream().toArray());
+        calls += 1 + twos.length;
+        due("atOnce of " + Arrays.toString(twos), x.atOnce(1) ? 1 : 0, model.atOnce(twos) ? 1 : 0);
     }
 
     private void cords() {

@@ -19,10 +19,11 @@ final class Texts {
             told.append(';');
         }
         int span = 5 + random.nextInt(30);
+        int start = random.nextBoolean() ? 0 : random.nextInt(1000 - span);
         for (int c = random.nextInt(11); c > 0; c--) {
             int from = random.nextInt(lines);
             int to = (from + 1 + random.nextInt(lines - 1)) % lines;
-            told.append("call ").append(from).append(" to ").append(to).append(" at ").append(random.nextInt(span))
+            told.append("call ").append(from).append(" to ").append(to).append(" at ").append(start + random.nextInt(span))
                     .append(" lasts ").append(1 + random.nextInt(9)).append(';');
         }
         if (random.nextInt(3) > 0) {
@@ -34,7 +35,7 @@ final class Texts {
         if (random.nextInt(4) > 0) {
             told.append("marries:").append(truth(0)).append(';');
         }
-        return told.append("minute ").append(random.nextInt(4)).append(';').toString();
+        return told.append("minute ").append(start + random.nextInt(4)).append(';').toString();
     }
 
     private String sum(int depth, String... variables) {
