@@ -1898,7 +1898,7 @@ public final class CrossedLines {
             for (int k = 0; k < cords; k++) {
                 takes[k] = able & takenBy(board, k);
             }
-            seek(board, able);
+            seek(board);
         }
 
         void seekByCords(Board board, int freeCords) {
@@ -1907,7 +1907,7 @@ public final class CrossedLines {
             for (int k = 0; k < cords; k++) {
                 takes[k] = able;
             }
-            seek(board, able);
+            seek(board);
         }
 
         /** Those, as bits, that no door and no call that is on keeps from being on. */
@@ -1936,16 +1936,20 @@ public final class CrossedLines {
             return bits;
         }
 
-        private void seek(Board board, int able) {
+        private void seek(Board board) {
             int calls = Math.min(board.calls(), MOST_CALLS);
             for (int c = 0; c < calls; c++) {
                 findOthers(board, c, calls);
+            }
+            int able = 0;
+            for (int k = 0; k < cords && k < MOST_CORDS; k++) {
+                able |= takes[k];
             }
             most = 0;
             mostBits = 0;
             // Sets rise as numbers, so the first of the greatest size is the least one.
             for (int set = 1; set < 1 << calls; set++) {
-                if ((set & ~able) == 0 && Integer.bitCount(set) > most) {
+                if ((set & ~able) == 0 && Integer.bitCount(set) > most && !isAnyLineTwice(set)) {
                     Arrays.fill(used, 0);
                     if (fits(set, 0)) {
                         most = Integer.bitCount(set);
@@ -1976,6 +1980,16 @@ public final class CrossedLines {
             }
         }
 
+        /** Whether two calls of a set want one line at one time. */
+        private boolean isAnyLineTwice(int set) {
+            for (int c = 0; c < MOST_CALLS; c++) {
+                if ((set >> c & 1) == 1 && (clashes[c] & set) != 0) {
+                    return true;
+                }
+            }
+            return false;
+        }
+
         /** Whether the calls of a set from c on, ten at most, find cords beside those used already. */
         private boolean fits(int set, int c) {
             if (c < 0 || c >= MOST_CALLS || set >> c == 0) {
@@ -1983,9 +1997,6 @@ public final class CrossedLines {
             }
             if ((set >> c & 1) == 0) {
                 return fits(set, c + 1);
-            }
-            if ((clashes[c] & set) != 0) {
-                return false;
             }
             for (int k = 0; k < cords && k < MOST_CORDS; k++) {
                 if ((takes[k] >> c & 1) == 1 && (used[k] & meets[c]) == 0) {
